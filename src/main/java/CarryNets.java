@@ -552,39 +552,44 @@ public final class CarryNets {
             for (int i = 0; i < n; i++) {
                 put(low, i, i);
             }
-            forgetRow();
         }
 
         void join(int row) {
-            forgetRow();
+            for (int i = 0; i < places; i++) {
+                put(taken, i, NONE);
+                put(load, i, 0);
+            }
             // From above: what lies below a CELL is still as it was ahead of the ROW.
             for (int i = places - 1; i > 0; i--) {
-                if ((row >>> i & 1) != 0 && isOpen(i)) {
-                    int j = lowOf(i) - 1;
+                int j = at(low, i) - 1;
+                if ((row >>> i & 1) != 0 && j >= 0) {
                     put(taken, i, j);
-                    put(load, j, loadOf(j) + 1);
-                    put(low, i, lowOf(j));
+                    put(load, j, at(load, j) + 1);
+                    put(low, i, at(low, j));
                 }
             }
         }
 
-        boolean isOpen(int i) {
-            return lowOf(i) > 0;
+        /** The PLACES whose SPAN does not reach 0, as bits. */
+        int openPlaces() {
+            int open = 0;
+            for (int i = 0; i < places; i++) {
+                if (at(low, i) > 0) {
+                    open |= 1 << i;
+                }
+            }
+            return open;
         }
 
         boolean whole() {
-            for (int i = 0; i < places; i++) {
-                if (isOpen(i)) {
-                    return false;
-                }
-            }
-            return true;
+            return openPlaces() == 0;
         }
 
         int lowOf(int i) {
             return at(low, i);
         }
 
+        /** How many CELLS of the latest ROW took PLACE i. */
         int loadOf(int i) {
             return at(load, i);
         }
@@ -592,13 +597,6 @@ public final class CarryNets {
         /** The PLACE that the CELL at i took in the latest ROW; NONE: it has no CELL there. */
         int takenBy(int i) {
             return at(taken, i);
-        }
-
-        private void forgetRow() {
-            for (int i = 0; i < places; i++) {
-                put(taken, i, NONE);
-                put(load, i, 0);
-            }
         }
     }
 
@@ -615,9 +613,9 @@ public final class CarryNets {
             last.begin(n);
         }
 
-        /** A PLACE whose SPAN is whole gets no CELL, and a ROW without CELLS is left out. */
+        /** A PLACE whose SPAN reaches 0 gets no CELL, and a ROW without CELLS is left out. */
         void addRow(int cells) {
-            int row = cells & openPlaces();
+            int row = cells & last.openPlaces();
             if (row != 0 && depth < MOST_ROWS) {
                 put(rows, depth, row);
                 depth++;
@@ -627,16 +625,6 @@ public final class CarryNets {
 
         int row(int r) {
             return at(rows, r);
-        }
-
-        private int openPlaces() {
-            int open = 0;
-            for (int i = 0; i < places; i++) {
-                if (last.isOpen(i)) {
-                    open |= 1 << i;
-                }
-            }
-            return open;
         }
     }
 
@@ -773,7 +761,7 @@ public final class CarryNets {
                 if (value >= net.places) {
                     return refuse(3);
                 }
-                if ((cells >>> value & 1) != 0 || !net.last.isOpen(value)) {
+                if (((net.last.openPlaces() & ~cells) >>> value & 1) == 0) {
                     return refuse(4);
                 }
                 cells |= 1 << value;
@@ -974,12 +962,17 @@ public final class CarryNets {
             if (rowsLeft <= 0 || longestChain(state) >= 1 << rowsLeft) {
                 return 0;
             }
+            return waysByRows(state, rowsLeft, spare);
+        }
+
+        private int waysByRows(int state, int rowsLeft, int spare) {
             int open = openPlaces(state);
             int unready = unreadyPlaces(state);
             int ways = 0;
-            for (int row = 2; row < 1 << places; row += 2) {
-                int left = spare - Integer.bitCount(row & unready);
-                if ((row & ~open) == 0 && left >= 0 && loadsFit(state, row)) {
+            // The last ROW can but take all that is open.
+            for (int row = rowsLeft == 1 ? open : 2; row <= open; row += 2) {
+                int left = (row & ~open) == 0 ? spare - Integer.bitCount(row & unready) : NONE;
+                if (left >= 0 && loadsFit(state, row)) {
                     put(rowsNow, rows - rowsLeft, row);
                     ways += waysOn(joined(state, row), rowsLeft - 1, left);
                 }
@@ -1126,18 +1119,32 @@ public final class CarryNets {
 
         long skipFigures(int n, int s) {
             skip = s;
-            for (int worst = 1; worst <= n; worst++) {
-                goal = worst;
-                allowNoBlocks(n);
-                // BLOCKS of 1 PLACE each have this WORST already: more can not be put.
-                for (int b = 1; b <= MOST_BLOCKS && 1 + s * (b - 2) <= worst; b++) {
-                    allowBlocks(b, n);
-                    if (wayAllowed(b, n) >= -s) {
-                        return leastSkipFigures(b, n);
-                    }
+            int least = 1;
+            int most = n;
+            // A greater WORST allows all that a lesser one does, and a WORST of n can always be kept.
+            for (int halving = 0; halving < MOST_PLACES && least < most; halving++) {
+                int middle = (least + most) / 2;
+                if (fewestSkipBlocks(n, middle) > 0) {
+                    most = middle;
+                } else {
+                    least = middle + 1;
                 }
             }
-            return BAD;
+            return leastSkipFigures(fewestSkipBlocks(n, least), n);
+        }
+
+        /** The fewest BLOCKS that keep to a WORST; 0: none do. */
+        private int fewestSkipBlocks(int n, int worst) {
+            goal = worst;
+            allowNoBlocks(n);
+            // BLOCKS of 1 PLACE each have this WORST already: more can not be put.
+            for (int b = 1; b <= MOST_BLOCKS && 1 + skip * (b - 2) <= worst; b++) {
+                allowBlocks(b, n);
+                if (wayAllowed(b, n) >= -skip) {
+                    return b;
+                }
+            }
+            return 0;
         }
 
         private void allowNoBlocks(int n) {
@@ -1149,7 +1156,8 @@ public final class CarryNets {
         private void allowBlocks(int b, int n) {
             for (int left = 0; left <= n; left++) {
                 int greatest = NEVER;
-                for (int size = 1; size <= greatestSize(left); size++) {
+                int most = greatestSize(left);
+                for (int size = 1; size <= most; size++) {
                     int below = wayAllowed(b - 1, left - size);
                     if (size <= below) {
                         greatest = Math.max(greatest, Math.min(goal + 1 - size, below - skip));
