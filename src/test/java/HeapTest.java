@@ -109,6 +109,9 @@ public final class HeapTest {
     same(x, new int[] {12, 11, 10, 9, 8, 7, 6, 5, 4, 3, 2, 1});
     DUE.bad("height", x.height(-1, 0), x.height(12, 0), x.height(0, -1), x.height(0, 13), x.height(Integer.MIN_VALUE, 5));
     same(x, new int[] {12, 11, 10, 9, 8, 7, 6, 5, 4, 3, 2, 1});
+    DUE.is("height(0, 0)", x.height(0, 0), 12);
+    DUE.is("height(11, 0)", x.height(11, 0), 1);
+    same(x, new int[] {0, 11, 10, 9, 8, 7, 6, 5, 4, 3, 2, 0});
   }
 
   private static void products() {

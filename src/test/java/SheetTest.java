@@ -75,6 +75,7 @@ public final class SheetTest {
     DUE.is("INDEX behind the last", x.heights(0, 2, 12, 3), -12);
     x.lay(0, 12, -1);
     DUE.is("below 0", x.heights(0, 2, 12, 3), -20);
+    DUE.is("below 0 further on", x.heights(0, 2, 9, 4), -23);
     DUE.is("INDEX", x.heights(0, 2, 14, 1), -12);
     DUE.is("INDEX below 0", x.heights(0, 2, -1, 2), -12);
     DUE.is("INDEX far off", x.heights(0, 2, Integer.MAX_VALUE, 12), -12);
