@@ -69,6 +69,22 @@ final class PlainNet {
     return most;
   }
 
+  /** PLACES, DEPTH, CELLS, whether it is WHOLE, the greatest LOAD, all WAYS, the most TRACKS, the longest WAY. */
+  int[] told() {
+    int[] told = {n, rows.size(), 0, whole() ? 1 : 0, 0, 0, 0, 0};
+    for (int r = 0; r < rows.size(); r++) {
+      told[2] += rows.get(r).size();
+      told[6] = Math.max(told[6], tracks(r));
+      for (int i : rows.get(r)) {
+        int j = takes(r, i);
+        told[4] = Math.max(told[4], load(r, j));
+        told[5] += i - j;
+        told[7] = Math.max(told[7], i - j);
+      }
+    }
+    return told;
+  }
+
   int[] times(int c, int f, int[] starts) {
     int[] time = java.util.Arrays.copyOf(starts, n);
     for (int r = 0; r < rows.size(); r++) {
@@ -169,7 +185,7 @@ final class PlainNet {
     return net;
   }
 
-  private static TreeSet<Integer> places(int n, java.util.function.IntPredicate has) {
+  static TreeSet<Integer> places(int n, java.util.function.IntPredicate has) {
     TreeSet<Integer> row = new TreeSet<>();
     for (int i = 0; i < n; i++) {
       if (has.test(i)) {
