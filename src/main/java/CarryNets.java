@@ -316,7 +316,7 @@ public final class CarryNets {
         trial.copy(columns);
         trial.clearTallies();
         int rows = 0;
-        // Each ROW takes bits away, so that there are never more ROWS than bits.
+        // Each ROW takes bits away or brings the greatest HEIGHT down, so that there are never more ROWS than bits.
         while (rows < COLUMNS * MOST_HEIGHT && !trial.done()) {
             trial.bringDown(law);
             rows++;

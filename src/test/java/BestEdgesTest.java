@@ -59,6 +59,7 @@ public final class BestEdgesTest {
     for (int f = 1; f <= 6; f++) {
       x.made(7, 3, f);
       EDGES.is("LOAD", x.told(f - 1, 4) <= f ? 1 : 0, 1);
+      EDGES.is("the fewest CELLS", x.told(f - 1, 2), x.best(7, 3, f, 0));
     }
   }
 

@@ -118,7 +118,10 @@ public final class ClockEdgesTest {
     x.start(1, 99);
     EDGES.is("PLACE 0", x.time(0, 0), 0);
     EDGES.is("PLACE 1", x.time(0, 1), 99);
-    EDGES.is("the latest", x.time(0, NONE), 99);
+    EDGES.is("the latest is the last", x.time(0, NONE), 99);
+    x.start(1, 7);
+    x.start(0, 8);
+    EDGES.is("the latest is PLACE 0", x.time(0, NONE), 8);
   }
 
   private static void timeAtTheGreatest() {

@@ -8,6 +8,7 @@ public final class HeapEdgesTest {
     productBounds();
     productSetsAll();
     downBounds();
+    downOneRow();
     downWhenDone();
     threesAtOnce();
     late();
@@ -79,6 +80,18 @@ public final class HeapEdgesTest {
   // "DOWN by one ROW by a law (0, 1): how many threes it took. BAD; STATE: it is DONE."
   private static void downBounds() {
     EDGES.bad("down", x -> x.down(-1), x -> x.down(2), x -> x.down(Integer.MIN_VALUE), x -> x.down(Integer.MAX_VALUE));
+  }
+
+  // "how many threes it took": those of this ROW alone.
+  private static void downOneRow() {
+    CarryNets x = heap(12);
+    EDGES.is("12", x.down(0), 4);
+    EDGES.is("4 and 4", x.down(0), 2);
+    EDGES.is("2, 3 and 1", x.down(0), 1);
+    EDGES.is("2, 1 and 2", x.down(0), STATE);
+    x = heap(12, 12);
+    EDGES.is("late, to 9", x.down(1), 1 + 2);
+    EDGES.is("late, to 6", x.down(1), 1 + 2);
   }
 
   // "It is DONE, when no HEIGHT is above 2."

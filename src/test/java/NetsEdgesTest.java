@@ -216,6 +216,8 @@ public final class NetsEdgesTest {
     EDGES.is("two over the gap behind 1", x.told(2, 6), 2);
     EDGES.is("two that meet in no gap", x.told(3, 6), 1);
     EDGES.is("their longest WAY", x.told(3, 7), 2);
+    Texts.tell(x, "7:5,6;1,5,6;");
+    EDGES.is("one that ends does not count further on", x.told(4, 6), 2);
   }
 
   // "Of ROW r of a NET at PLACE i: .. BAD."

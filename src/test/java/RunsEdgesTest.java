@@ -48,6 +48,7 @@ public final class RunsEdgesTest {
     EDGES.leaves("two carries one behind another are two", 1, x -> x.run(8, 3, 3));
     EDGES.leaves("the second is the longer", 3, x -> x.run(8, 0x73, 0x11));
     EDGES.leaves("the first is the longer", 4, x -> x.run(8, 0x3f, 0x11));
+    EDGES.leaves("it ends at the PLACE that does neither", 1, x -> x.run(8, 0xfd, 1));
     EDGES.leaves("through all", 8, x -> x.run(8, 255, 1));
   }
 

@@ -181,7 +181,12 @@ public final class SheetEdgesTest {
 
   // "HEIGHTS of COLUMNS 0 to n - 1 (.. others become 0) are read .. from CELL f on: all bits."
   private static void othersBecomeZero() {
-    CarryNets x = State.FULL.make();
+    CarryNets x = sheet(2, 4, 5, 6, 7);
+    EDGES.is("CELLS 1 and 2", x.heights(1, 2, 1, 2), 11);
+    EDGES.is("COLUMN 0 has CELL 1", x.heap(0), 5);
+    EDGES.is("COLUMN 1 has CELL 2", x.heap(1), 6);
+    EDGES.is("COLUMN 2 does not have CELL 3", x.heap(2), 0);
+    x = State.FULL.make();
     EDGES.is("CELL 59 alone", x.heights(0, 0, 59, 1), 11);
     EDGES.is("COLUMN 0", x.heap(0), 11);
     EDGES.is("others", x.heap(21), 11);

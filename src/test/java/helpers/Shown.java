@@ -68,7 +68,7 @@ final class Shown {
     }
   }
 
-  /** One more byte at the end than THE TAPE has room for can not be told, so a NET goes first if need be. */
+  /** A text is told only while there is room for a NET, so one goes first if need be. */
   private void tape() {
     row("feed", x.feed(Texts.eight("5,3;    ", 0)));
     if (x.count(0) == 8) {

@@ -5,7 +5,7 @@ final class Texts {
   private Texts() {
   }
 
-  /** Feeds the text by eights and cuts the last eight, so that it must end 8 bytes ahead of 240 or at an eighth byte. */
+  /** Feeds the text by eights and cuts what the last eight have too much; rounded up so, it must have room on THE TAPE. */
   static void feed(CarryNets x, String text) {
     byte[] bytes = text.getBytes(StandardCharsets.ISO_8859_1);
     int before = x.count(3);
