@@ -8,6 +8,7 @@ public final class TapeEdgesTest {
     feedFull();
     endBounds();
     textEmptiesTheTape();
+    textRefused();
     textFull();
     faultOfTheLatest();
     tokens();
@@ -83,6 +84,16 @@ public final class TapeEdgesTest {
     EDGES.is("nothing is left", x.text(), -10);
     EDGES.is("a NET without ROWS", Texts.tell(x, "2:"), 2);
     EDGES.is("its DEPTH", x.told(2, 1), 0);
+  }
+
+  // "what is refused changes nothing (but THE TAPE, as told)": SOME has FAULT 1 already.
+  private static void textRefused() {
+    CarryNets x = State.SOME.make();
+    x.end(0);
+    EDGES.is("a FAULT behind two ROWS", Texts.tell(x, "9:8,7;8;x"), -18);
+    CarryNets other = State.SOME.make();
+    other.end(0);
+    EDGES.same("nothing but THE TAPE is changed", x, other);
   }
 
   // "FULL (THE TAPE stays)", ahead of all FAULTS.

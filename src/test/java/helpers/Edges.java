@@ -21,11 +21,14 @@ final class Edges {
     for (State state : states.length == 0 ? State.values() : states) {
       CarryNets x = state.make();
       due.is(name + " when " + state, call.on(x), want);
-      same(name + " when " + state, Shown.of(x), Shown.of(state.make()));
+      same(name + " when " + state, x, state.make());
     }
   }
 
-  private void same(String name, List<String> shown, List<String> want) {
+  /** Later calls show the same of both. */
+  void same(String name, CarryNets x, CarryNets other) {
+    List<String> shown = Shown.of(x);
+    List<String> want = Shown.of(other);
     int first = 0;
     while (first < want.size() && first < shown.size() && shown.get(first).equals(want.get(first))) {
       first++;
